@@ -96,7 +96,8 @@ public final class NameHat {
 
     public int island() {
         draft.clear();
-        return readTape(ISLAND_TEXT, MOST_ISLAND);
+        reader.readText(ISLAND_TEXT, tapeSize, MOST_ISLAND);
+        return takeDraft();
     }
 
     public int fault() {
@@ -106,18 +107,19 @@ public final class NameHat {
     public int book() {
         draft.copyFrom(now);
         draft.bookLines = 0;
-        return readTape(BOOK_TEXT, MOST_OTHER_TEXT);
+        reader.readText(BOOK_TEXT, tapeSize, MOST_OTHER_TEXT);
+        return takeDraft();
     }
 
     public int roll() {
         draft.copyFrom(now);
         draft.clearRoll();
-        return readTape(ROLL_TEXT, MOST_OTHER_TEXT);
+        reader.readText(ROLL_TEXT, tapeSize, MOST_OTHER_TEXT);
+        return takeDraft();
     }
 
-    /** Reads the tape into the draft, which takes the place of what is now, if it has no FAULT. */
-    private int readTape(int text, int most) {
-        reader.readText(text, tapeSize, most);
+    /** The draft that was read takes the place of what is now, if it has no FAULT. */
+    private int takeDraft() {
         tapeSize = 0;
         latestFault = reader.faultKind;
         if (latestFault != 0) {
@@ -222,12 +224,12 @@ public final class NameHat {
         }
         Hands hands = draft.hands;
         hands.copyFrom(now.hands);
-        int line = 0;
         int why = 0;
-        while (line < now.bookLines && why == 0) {
+        int line = 0;
+        for (; line < now.bookLines; line++) {
             why = hands.doLine(now.island, now.bookWords.at(line), now.bookFirsts.at(line), now.bookSeconds.at(line));
-            if (why == 0) {
-                line++;
+            if (why != 0) {
+                break;
             }
         }
         wentOnce = true;
@@ -764,7 +766,7 @@ public final class NameHat {
                     int circle = (left >> h & 1) == 1 ? circleOf(h) : 0;
                     gone |= circle;
                     // A circle counts at its least HOUSE alone.
-                    if (Integer.bitCount(circle) > 1 && Integer.numberOfTrailingZeros(circle) == h) {
+                    if (Integer.bitCount(circle) > 1 && (circle & (1 << h) - 1) == 0) {
                         circles++;
                     }
                 }
@@ -971,7 +973,7 @@ public final class NameHat {
                 int left = Integer.bitCount(hat);
                 if (left > 0) {
                     x = x * 1103515245 + 12345;
-                    one = bitNumber(hat, (x >>> 8) % left);
+                    one = inHat(hat, (x >>> 8) % left);
                     hat &= ~(1 << one);
                 }
                 hands.held.put(h, one);
@@ -979,13 +981,19 @@ public final class NameHat {
             }
         }
 
-        /** The place of the bit with that number, as they rise. */
-        private static int bitNumber(int bits, int number) {
-            int rest = bits;
-            for (int i = 0; i < number && i < MOST_SURNAMES; i++) {
-                rest &= rest - 1;
+        /** The SURNAME with that number of those still in the hat, as they rise. */
+        private static int inHat(int hat, int number) {
+            int ahead = number;
+            for (int x = 0; x < MOST_SURNAMES; x++) {
+                if ((hat >> x & 1) == 0) {
+                    continue;
+                }
+                if (ahead == 0) {
+                    return x;
+                }
+                ahead--;
             }
-            return Integer.numberOfTrailingZeros(rest);
+            return NONE;
         }
 
         /** How many SURNAMES of that WORTH or more the HOUSE drew, whatever it held in the end. */
@@ -1176,11 +1184,10 @@ public final class NameHat {
         private static final String ALL =
             "name cursed pawned house holds wants feud pews sits field has not swap give drop take trade ";
 
-        private Words() {
-        }
+        // With so many signs to tell apart, seven letters stay below the greatest long.
+        private static final int SIGNS = 128;
 
-        static long withLetter(long letters, int letter) {
-            return letters * 27 + (letter - 'a' + 1);
+        private Words() {
         }
 
         static int numberOf(long letters) {
@@ -1188,7 +1195,7 @@ public final class NameHat {
             int number = 0;
             for (int i = 0; i < ALL.length(); i++) {
                 if (ALL.charAt(i) != ' ') {
-                    word = withLetter(word, ALL.charAt(i));
+                    word = word * SIGNS + ALL.charAt(i);
                     continue;
                 }
                 if (word == letters) {
@@ -1216,7 +1223,7 @@ public final class NameHat {
         private int most;
         private int behind;
 
-        // Of the TOKEN that was read last.
+        // Of the TOKEN that was read last; its word is NONE, if it is none of Words.
         private int kind;
         private int place;
         private int number;
@@ -1236,6 +1243,7 @@ public final class NameHat {
             while (place < limit && (tape.at(place) == 32 || tape.at(place) == 10)) {
                 place++;
             }
+            word = NONE;
             if (place >= limit) {
                 place = limit;
                 kind = size > most ? NO_TOKEN : END;
@@ -1260,7 +1268,7 @@ public final class NameHat {
                     number = number * 10 + (sign - '0');
                     digits++;
                 } else {
-                    letters = Words.withLetter(letters, sign);
+                    letters = letters * Words.SIGNS + sign;
                 }
                 behind++;
             }
@@ -1312,21 +1320,15 @@ public final class NameHat {
             // No text has more LINES than bytes.
             for (int line = 0; line <= MOST_TAPE; line++) {
                 tokens.step();
-                if (tokens.kind == Tokens.END || !readLine(text) || !isSemicolon()) {
+                if (tokens.kind == Tokens.END) {
+                    return;
+                }
+                boolean fine = text == ISLAND_TEXT ? islandLine() : text == ROLL_TEXT ? rollLine() : bookLine();
+                if (!fine || !isSemicolon()) {
                     return;
                 }
                 lines++;
             }
-        }
-
-        private boolean readLine(int text) {
-            if (text == ROLL_TEXT) {
-                return rollLine();
-            }
-            if (tokens.kind != Tokens.WORD) {
-                return fail(1);
-            }
-            return text == ISLAND_TEXT ? islandLine() : bookLine();
         }
 
         private boolean fail(int kind) {

@@ -162,6 +162,22 @@ public final class BookTest {
 
     private static void staying(Check check) {
         NameHat hat = check.islandOf(ISLAND);
+        check.book(hat, "trade;trade;", 2, 0);
+        check.book(hat, "", 0, 0);
+        check.due("a BOOK of no LINES", hat.count(8), 0);
+        // What a BOOK would do is not there for the next text.
+        check.book(hat, "drop a;sits b 2;", 2, 0);
+        check.due("go(0)", hat.go(0), NameHat.NONE);
+        check.book(hat, "drop a;sits b 2;", 2, 0);
+        check.due("house(0, 0) behind book()", hat.house(0, 0), 0);
+        check.due("house(1, 1) behind book()", hat.house(1, 1), 0);
+        check.due("go(0)", hat.go(0), NameHat.NONE);
+        check.roll(hat, "a has p;", 1, 0);
+        check.due("house(0, 0) behind roll()", hat.house(0, 0), 0);
+        check.due("house(1, 1) behind roll()", hat.house(1, 1), 0);
+        check.due("count(8) behind roll()", hat.count(8), 2);
+        check.book(hat, "trade;", 1, 0);
+        check.due("count(6) behind book()", hat.count(6), 1);
         check.book(hat, "trade;", 1, 0);
         check.due("go(1)", hat.go(1), NameHat.NONE);
         check.due("traded", hat.house(0, 0), 1);

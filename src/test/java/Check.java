@@ -44,25 +44,37 @@ final class Check {
         return hat;
     }
 
+    /** What island(), book() and roll() have alike. */
+    private interface Reading {
+        int read();
+    }
+
     void island(NameHat hat, String text, int answer, int fault) {
-        tell(hat, text);
-        due("island() of '" + text + "'", hat.island(), answer);
-        due("fault() of '" + text + "'", hat.fault(), fault);
-        due("count(7) behind island()", hat.count(7), 0);
+        reads(hat, "island()", hat::island, text, answer, fault);
     }
 
     void book(NameHat hat, String text, int answer, int fault) {
-        tell(hat, text);
-        due("book() of '" + text + "'", hat.book(), answer);
-        due("fault() of '" + text + "'", hat.fault(), fault);
-        due("count(7) behind book()", hat.count(7), 0);
+        reads(hat, "book()", hat::book, text, answer, fault);
     }
 
     void roll(NameHat hat, String text, int answer, int fault) {
+        reads(hat, "roll()", hat::roll, text, answer, fault);
+    }
+
+    private void reads(NameHat hat, String call, Reading reading, String text, int answer, int fault) {
+        read(hat, call, reading, text, answer, fault);
+        // A FAULT ahead of the end stays the first one, whatever comes behind it.
+        if (-1 - answer >= 0 && -1 - answer < text.length() && text.length() < 380) {
+            read(hat, call, reading, text + "?", answer, fault);
+            read(hat, call, reading, text + ";?;", answer, fault);
+        }
+    }
+
+    private void read(NameHat hat, String call, Reading reading, String text, int answer, int fault) {
         tell(hat, text);
-        due("roll() of '" + text + "'", hat.roll(), answer);
+        due(call + " of '" + text + "'", reading.read(), answer);
         due("fault() of '" + text + "'", hat.fault(), fault);
-        due("count(7) behind roll()", hat.count(7), 0);
+        due("count(7) behind " + call, hat.count(7), 0);
     }
 
     /** The text alone comes on the tape. */

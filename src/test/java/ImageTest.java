@@ -35,6 +35,13 @@ public final class ImageTest {
         hat.restore(1);
         hat.restore(0);
         check.due("the later one", hat.count(5), 1);
+        check.due("image(1) over it", hat.image(1), true);
+        check.island(hat, "", 0, 0);
+        check.due("image(0) of none", hat.image(0), true);
+        check.due("restore(1)", hat.restore(1), true);
+        check.due("told", hat.count(0), 3);
+        check.due("restore(0)", hat.restore(0), true);
+        check.due("empty", hat.count(0), 0);
     }
 
     private static void all(Check check) {

@@ -52,6 +52,14 @@ public final class IslandTest {
         check.due("count(2)", hat.count(2), 3);
         check.due("count(3)", hat.count(3), 2);
         check.due("count(4)", hat.count(4), 7);
+        check.island(hat, "name r 1;name s 2;name t 3;name u 4;house a;house b;", 6, 0);
+        for (int x = 0; x < 4; x++) {
+            check.due("plain now: " + x, hat.surname(x, 1), 0);
+            check.due("held by none now: " + x, hat.surname(x, 2), NameHat.NONE);
+            check.due("no feuds now: " + x, hat.surname(x, 3), 0);
+            check.due("no wants now: " + x, hat.value(0, x), x + 1);
+            check.due("in PEW 0 now", hat.house(1, 1), 0);
+        }
         check.island(hat, "", 0, 0);
         for (int what = 0; what < 9; what++) {
             check.due("empty again: count(" + what + ")", hat.count(what), what == 2 ? 1 : what == 3 ? 8 : 0);

@@ -80,6 +80,10 @@ public final class SeatTest {
         check.island(hat, NAMES + "house a;house b;house c;house d;", 8, 0);
         check.due("a PEW that is none", hat.sit(), false);
         check.due("nobody moved", hat.house(1, 1), 0);
+        NameHat turned = check.islandOf(NAMES + HOUSES + "pews 2 8;sits a 1;");
+        seatsAre(check, turned, 0, 1, 0, 0, 0);
+        check.island(turned, NAMES + HOUSES, 8, 0);
+        check.due("the first HOUSE's PEW is none", turned.sit(), false);
         check.island(hat, NAMES + "house a;house b;house c;house d;house e;pews 2 8;", 10, 0);
         check.due("more HOUSES", hat.sit(), false);
         check.island(hat, NAMES + "house a;house b;house c;house d;pews 2 1;", 9, 0);

@@ -104,7 +104,12 @@ public final class SpringTest {
         for (int[] none : new int[][] {{-1, 0}, {3, 0}, {0, -1}, {0, 2}, {8, 0}, {0, 99}}) {
             check.due("held(" + none[0] + ", " + none[1] + ")", hat.held(none[0], none[1]), NameHat.NONE);
         }
-        for (int[] none : new int[][] {{-1, 0}, {5, 0}, {0, -1}, {0, 2}, {-1, 1}, {10, 0}}) {
+        hat.spring(2);
+        hat.spring(3);
+        for (int[] none : new int[][] {{3, 0}, {8, 0}, {9, 0}, {10, 0}, {16, 0}, {8, -1}, {-8, 1}, {-7, 2}, {0, 4}}) {
+            check.due("held(" + none[0] + ", " + none[1] + ")", hat.held(none[0], none[1]), NameHat.NONE);
+        }
+        for (int[] none : new int[][] {{-1, 0}, {5, 0}, {0, -1}, {0, 4}, {-1, 1}, {10, 0}}) {
             check.due("keeper(" + none[0] + ", " + none[1] + ")", hat.keeper(none[0], none[1]), NameHat.NONE);
         }
     }
@@ -166,6 +171,7 @@ public final class SpringTest {
         check.due("lapsed(0)", hat.lapsed(0), NameHat.NONE);
         check.due("lapsed(-1)", hat.lapsed(-1), NameHat.NONE);
         check.due("lapsed(1)", hat.lapsed(1), 4 + 8 + 16);
+        check.due("all of them", check.islandOf(NAMES + "house a;house b;").lapsed(1), 31);
         check.due("lapsed(2)", hat.lapsed(2), NameHat.NONE);
         hat.spring(3);
         hat.spring(8);
