@@ -40,6 +40,7 @@ public final class BookTest {
         check.book(hat, "sits p 1;", -6, 3);
         check.book(hat, "trade a;", -7, 1);
         check.book(hat, "trade", -6, 1);
+        check.book(hat, "5;", -1, 1);
         check.book(hat, "trade;;", -7, 1);
         check.book(hat, ";", -1, 1);
         check.book(hat, "name z 1;", -1, 1);

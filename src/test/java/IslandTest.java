@@ -125,6 +125,12 @@ public final class IslandTest {
         check.island(hat, "pews", -5, 1);
         check.island(hat, "sits", -5, 1);
         check.island(hat, "field", -6, 1);
+        check.island(hat, "5;", -1, 1);
+        for (String word : new String[] {"name", "house", "wants", "feud", "pews", "sits", "field"}) {
+            check.island(hat, word + ";", -1 - word.length(), 1);
+            check.island(hat, word, -1 - word.length(), 1);
+            check.island(hat, "7 1;", -1, 1);
+        }
         check.island(hat, "name p;", -7, 1);
         check.island(hat, "name p 1 1;", -10, 1);
         check.island(hat, "name p 1 cursed pawned;", -17, 1);

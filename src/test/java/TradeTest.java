@@ -6,6 +6,7 @@ public final class TradeTest {
         rings(check);
         ringsStay(check);
         trades(check);
+        allInOneCircle(check);
         envies(check);
         check.end("TradeTest");
     }
@@ -115,6 +116,23 @@ public final class TradeTest {
             check.due("house(" + h + ", 0)", hat.house(h, 0), three[h]);
         }
         check.due("nobody holds anything", check.islandOf("name p 1;house a;").trade(), 0);
+    }
+
+    private static void allInOneCircle(Check check) {
+        StringBuilder text = new StringBuilder();
+        for (int i = 0; i < 8; i++) {
+            text.append("name ").append((char) ('a' + i)).append(" 1;house ").append((char) ('m' + i)).append(" holds ")
+                .append((char) ('a' + i)).append(';');
+        }
+        for (int i = 0; i < 8; i++) {
+            text.append("wants ").append((char) ('m' + i)).append(' ').append((char) ('a' + (i + 3) % 8)).append(" 9;");
+        }
+        NameHat hat = check.islandOf(text.toString());
+        ringIs(check, hat, 0, 3, 6, 1, 4, 7, 2, 5);
+        check.due("trade() of eight", hat.trade(), 1);
+        for (int h = 0; h < 8; h++) {
+            check.due("house(" + h + ", 0)", hat.house(h, 0), (h + 3) % 8);
+        }
     }
 
     private static void envies(Check check) {
