@@ -3,6 +3,7 @@ public final class TapeTest {
     public static void main(String[] args) {
         Check check = new Check();
         newObject(check);
+        emptyIsland(check);
         feeding(check);
         ending(check);
         check.end("TapeTest");
@@ -21,6 +22,44 @@ public final class TapeTest {
         check.due("new: sit()", hat.sit(), false);
         check.due("new: restore(0)", hat.restore(0), false);
         check.due("NONE", NameHat.NONE, -1);
+    }
+
+    /** "An empty ISLAND; an empty tape": each call on a new object. */
+    private static void emptyIsland(Check check) {
+        NameHat hat = new NameHat();
+        check.isMissing("new: surname(0, 0)", () -> hat.surname(0, 0));
+        check.isMissing("new: house(0, 0)", () -> hat.house(0, 0));
+        check.isMissing("new: value(0, 0)", () -> hat.value(0, 0));
+        check.isMissing("new: waiting(0, 0)", () -> hat.waiting(0, 0));
+        check.isMissing("new: wedding(0, 1, 0, 0)", () -> hat.wedding(0, 1, 0, 0));
+        check.isMissing("new: luck(0, 0, 0)", () -> hat.luck(0, 0, 0));
+        int[] none = {hat.spring(0), hat.held(0, 0), hat.ring(), hat.ringAt(0), hat.went(0), hat.keeper(0, 0), hat.envy(0),
+            hat.seatOf(0), hat.dealt(0, 0), hat.could(0), hat.lapsed(0), hat.lapsed(2), hat.unfair(0, 0, 1, 1)};
+        for (int i = 0; i < none.length; i++) {
+            check.due("new: NONE, " + i, none[i], NameHat.NONE);
+        }
+        check.due("new: swap(0, 1)", hat.swap(0, 1), false);
+        check.due("new: sit()", hat.sit(), false);
+        check.due("new: trade()", hat.trade(), 0);
+        check.due("new: worth()", hat.worth(), 0);
+        check.due("new: broken()", hat.broken(), 0);
+        check.due("new: grave()", hat.grave(), 0);
+        check.due("new: lapsed(1)", hat.lapsed(1), 0);
+        check.due("new: dealings()", hat.dealings(), 1);
+        check.due("new: go(0)", hat.go(0), NameHat.NONE);
+        for (int what = 0; what < 4; what++) {
+            check.due("new: went(" + what + ")", hat.went(what), 0);
+        }
+        check.due("new: seats()", hat.seats(), 0);
+        check.due("new: sit() behind seats()", hat.sit(), true);
+        check.due("new: island() of an empty tape", hat.island(), 0);
+        check.due("new: book() of an empty tape", hat.book(), 0);
+        check.due("new: roll() of an empty tape", hat.roll(), 0);
+        check.due("new: restore(1)", hat.restore(1), false);
+        check.due("new: image(1)", hat.image(1), true);
+        check.due("new: restore(1) of it", hat.restore(1), true);
+        NameHat other = new NameHat();
+        check.due("another object is another", other.restore(1), false);
     }
 
     private static void feeding(Check check) {
